@@ -5,6 +5,7 @@ final class FutureTest {
         periodsAtTheLimit();
         gliding();
         glidingOfOthers();
+        glidingAtTheLimit();
         foreseeing();
         foreseeingRefused();
         advising();
@@ -125,6 +126,21 @@ final class FutureTest {
         Check.due("12: a ship glides within four years", 4, ship.glides(0));
         Check.due("12: a ship's dx", 6, ship.glides(1));
         Check.due("12: a ship's dy", 0, ship.glides(2));
+    }
+
+    private static void glidingAtTheLimit() {
+        HedgeGliders last = Gardens.of(true, ".#.#.", ".#.##", "....#", "..###");
+        last.setRules(154, 209);
+        Check.due("12: behind 30 years", 30, last.glides(0));
+        Check.due("12: behind 30 years, dx", 4, last.glides(1));
+        Check.due("12: behind 30 years, dy", 0, last.glides(2));
+        HedgeGliders late = Gardens.of(true, ".....", "..#..", ".#...", ".#..#", ".....");
+        late.setRules(362, 450);
+        for (int what = 0; what < 3; what++) {
+            Check.due("12: behind 31 years is too late", -1, late.glides(what));
+        }
+        late.pass(31);
+        Check.due("12: behind 31 years it is moved", "..#../.#.../.#..#/...../.....", Gardens.picture(late));
     }
 
     private static void glidesBy(String what, int dx, int dy, HedgeGliders object) {
