@@ -57,14 +57,16 @@ final class FutureTest {
         Check.due("11: too long ones are among them", 1, beyond > 0 ? 1 : 0);
     }
 
-    /** What period() is to answer, found by letting the years go by. */
+    /** What period() is to answer, found by letting the years go by: in life, as an object lives for 512 calls only. */
     private static int period(HedgeGliders object, int what) {
         String[] pictures = new String[61];
-        HedgeGliders other = Gardens.of(object.count(6) == 1, Gardens.picture(object).split("/"));
-        Gardens.life(other);
-        for (int i = 0; i <= 60; i++) {
-            pictures[i] = Gardens.picture(other);
+        pictures[0] = Gardens.picture(object);
+        boolean round = object.count(6) == 1;
+        for (int i = 1; i <= 60; i++) {
+            HedgeGliders other = Gardens.of(round, pictures[i - 1].split("/"));
+            Gardens.life(other);
             other.pass(1);
+            pictures[i] = Gardens.picture(other);
         }
         for (int first = 0; first < 60; first++) {
             for (int again = first + 1; again <= 60; again++) {
@@ -202,23 +204,24 @@ final class FutureTest {
         Check.due("14: away from the other", 2, lonely.advise(2));
         lonely.setRules(0, 0);
         Check.due("14: none is better", -1, lonely.advise(1));
-        for (int seed = 1; seed < 30; seed++) {
+        for (int seed = 2; seed < 60; seed++) {
             HedgeGliders any = new HedgeGliders();
-            any.setEdge(seed % 2 == 0);
-            scatter(any, seed);
+            any.setEdge(seed % 4 < 2);
+            scatter(any, seed / 2);
             any.pass(1 + seed % 3);
-            Check.due("14: years 1, seed " + seed, advised(any, 1), any.advise(1));
-            Check.due("14: years 2, seed " + seed, advised(any, 2), any.advise(2));
+            int years = 1 + seed % 2;
+            Check.due("14: years " + years + ", seed " + seed, advised(any, years), any.advise(years));
         }
     }
 
     /** What advise() is to answer, found by planting each cell and cutting it again. */
     private static int advised(HedgeGliders object, int years) {
         int w = object.count(1);
+        String cells = Gardens.picture(object).replace("/", "");
         int most = object.foresee(years, 3);
         int best = -1;
-        for (int i = 0; i < w * object.count(2); i++) {
-            if (object.told(i % w, i / w, 0) == 0) {
+        for (int i = 0; i < cells.length(); i++) {
+            if (cells.charAt(i) == '.') {
                 object.turn(i % w, i / w);
                 int size = object.foresee(years, 3);
                 object.turn(i % w, i / w);
@@ -248,13 +251,16 @@ final class FutureTest {
     }
 
     private static void digests() {
-        HedgeGliders object = new HedgeGliders();
-        scatter(object, 5);
-        object.lay(6, 7);
-        object.plant(0, 0, 1, 2);
-        object.setRules(77, 300);
-        object.setEdge(true);
         for (int year = 0; year < 5; year++) {
+            HedgeGliders object = new HedgeGliders();
+            scatter(object, 5);
+            object.lay(6, 7);
+            object.plant(0, 0, 1, 2);
+            object.setRules(77, 300);
+            object.setEdge(true);
+            if (year > 0) {
+                object.pass(year);
+            }
             long due = 1597;
             for (int what = 0; what <= 10; what++) {
                 due = due * 31 + object.count(what);
@@ -269,7 +275,6 @@ final class FutureTest {
             }
             Check.due("16: in the year " + year, due, object.digest());
             Check.due("16: once more", due, object.digest());
-            object.pass(1);
         }
     }
 

@@ -70,7 +70,7 @@ final class GardenTest {
     private static void eachNumberOfRules() {
         for (int around = 0; around <= 8; around++) {
             for (int bit = 0; bit <= 8; bit++) {
-                HedgeGliders object = ringed(around);
+                HedgeGliders object = Gardens.ringed(around);
                 object.setRules(1 << bit, 0);
                 Check.due("3: birth by " + around + " in " + bit, around == bit ? 1 : 0, object.told(1, 1, 4));
                 object.turn(1, 1);
@@ -80,19 +80,6 @@ final class GardenTest {
                 Check.due("3: stayed by " + around + " in " + bit, around == bit ? 1 : 0, object.told(1, 1, 0));
             }
         }
-    }
-
-    private static HedgeGliders ringed(int around) {
-        HedgeGliders object = new HedgeGliders();
-        object.lay(3, 3);
-        int planted = 0;
-        for (int cell = 0; cell < 9 && planted < around; cell++) {
-            if (cell != 4) {
-                object.turn(cell % 3, cell / 3);
-                planted++;
-            }
-        }
-        return object;
     }
 
     private static void edge() {

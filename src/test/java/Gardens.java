@@ -22,16 +22,50 @@ final class Gardens {
     }
 
     static String picture(HedgeGliders object) {
+        int w = object.count(1);
+        int h = object.count(2);
         StringBuilder text = new StringBuilder();
-        for (int y = 0; y < object.count(2); y++) {
+        for (int y = 0; y < h; y++) {
             if (y > 0) {
                 text.append('/');
             }
-            for (int x = 0; x < object.count(1); x++) {
+            for (int x = 0; x < w; x++) {
                 text.append(object.told(x, y, 0) == 1 ? '#' : '.');
             }
         }
         return text.toString();
+    }
+
+    /** A new object with these rules. */
+    static HedgeGliders ruled(boolean round, int births, int stays, String picture) {
+        HedgeGliders object = of(round, picture.split("/"));
+        object.setRules(births, stays);
+        return object;
+    }
+
+    /** A garden of 3 by 3 with so many hedges around the cell in the middle, which is open. */
+    static HedgeGliders ringed(int around) {
+        HedgeGliders object = new HedgeGliders();
+        object.lay(3, 3);
+        int planted = 0;
+        for (int cell = 0; cell < 9 && planted < around; cell++) {
+            if (cell != 4) {
+                object.turn(cell % 3, cell / 3);
+                planted++;
+            }
+        }
+        return object;
+    }
+
+    /** An object with a hedge in each cell. */
+    static HedgeGliders full(boolean round, int w, int h) {
+        HedgeGliders object = new HedgeGliders();
+        object.setEdge(round);
+        object.lay(w, h);
+        for (int cell = 0; cell < w * h; cell++) {
+            object.turn(cell % w, cell / w);
+        }
+        return object;
     }
 
     static int numbers(int... all) {
